@@ -998,6 +998,7 @@ public final class TearGuests {
             return later;
         }
     }
+
     /** What a GUEST may be like, and when there may be hymns, by what it is told to shed. */
     private static final class Guess {
         private final Wedding tried = new Wedding();

@@ -1,18 +1,33 @@
-/** Counts the answers that are not the ones due, and tells them by the promise that they break. */
+/** Counts the answers that are not the ones due, and tells them by the promise and the sentence that they break. */
 final class Due {
+    /** Numbers that are far from all that the document tells. */
+    static final int[] FAR = {Integer.MIN_VALUE, Integer.MIN_VALUE + 1, -1000000, -2, 1 << 30, Integer.MAX_VALUE};
+
+    /** A call whose answer is due; an object is made for each, so that none is used for more than 512 calls. */
+    interface Call {
+        int on(TearGuests x);
+    }
+
     private int promise;
+    private String sentence = "";
     private int looked;
     private int wrong;
 
     void promise(int number) {
+        sentence(number, "");
+    }
+
+    /** The promise, and the words of the document that what follows holds to. */
+    void sentence(int number, String words) {
         promise = number;
+        sentence = words.isEmpty() ? "" : " \"" + words + "\"";
     }
 
     void is(String call, long got, long want) {
         looked++;
         if (got != want) {
             wrong++;
-            System.out.println("promise " + promise + ": " + call + " answered " + got + ", due is " + want);
+            System.out.println("promise " + promise + sentence + ": " + call + " answered " + got + ", due is " + want);
         }
     }
 
@@ -20,7 +35,7 @@ final class Due {
         looked++;
         if (!held) {
             wrong++;
-            System.out.println("promise " + promise + ": not so: " + what);
+            System.out.println("promise " + promise + sentence + ": not so: " + what);
         }
     }
 
@@ -39,7 +54,12 @@ final class Due {
         return x;
     }
 
-    /** All that can be asked of an object without a change to it, in one text. */
+    /** An ITEM from 0 to 9, if guest 0 is an aunt, HIRED, with START 9: the least WELL by which she sheds just that. */
+    static int item(TearGuests x, int row, int i) {
+        return x.fits(0, row, i, 1, 4);
+    }
+
+    /** All that can be asked of an object without a change to it, in one text; what was found comes last. */
     static String all(TearGuests x) {
         StringBuilder b = new StringBuilder();
         for (int what = 0; what <= 9; what++) {
