@@ -552,6 +552,8 @@ public final class EdgesOfActsTest {
             DUE.is("guest(2, " + what + ")", x.guest(2, what), BAD);
             DUE.is("guest(-1, " + what + ")", x.guest(-1, what), BAD);
         }
+        x.hire(1, 0);
+        DUE.is("guest(1, 4): sent home", x.guest(1, 4), 0);
         DUE.is("guest(1, 7)", x.guest(1, 7), BAD);
         DUE.is("guest(1, -1)", x.guest(1, -1), BAD);
         for (int far : Due.FAR) {

@@ -342,6 +342,7 @@ public final class EdgesOfForesightTest {
         x.swap(0, 3);
         x.swap(1, 2);
         DUE.is("order(2, 0): wherever they sit now", x.order(2, 0), 213);
+        DUE.is("order(2, 0): 0 between the others", Due.at("w99,0;a9,99,1;r0,99,1;r0,99,1;").order(2, 0), 102);
         // The dry guest first, if it brings as much: 0 1 3 2 and not 1 3 2 0.
         DUE.is("order(2, 0)", Due.at("w99,0;m0,0,1;r0,99,1;r0,99,1;a9,99,1;").order(2, 0), 132);
     }
@@ -701,10 +702,10 @@ public final class EdgesOfForesightTest {
         TearGuests seven = Due.at("w99,0;a9,99,1;m0,0,1;m0,0,1;m0,0,1;m0,0,1;r0,99,1;m0,0,1;");
         seven.minutes(1);
         DUE.is("SEATS 6 and 7 of seven", seven.drawn(1, 200000, 0), 18);
-        // Seed 300000 draws 747132706: by 7 it leaves 5. Guest 5 goes home, SEATS 5 and 6 change: 4 then sits by the aunt, 6.
-        TearGuests last = Due.at("w99,0;m0,0,1;m0,0,1;m0,0,1;m0,0,1;r0,99,1;m0,0,1;a9,99,1;");
+        // Seed 300000 draws 747132706: by 7 it leaves 5. Guest 5 goes home, SEATS 5 and 6 change: both rivals sit by the aunt, 4.
+        TearGuests last = Due.at("w99,0;m0,0,1;m0,0,1;m0,0,1;r0,99,1;a9,99,1;m0,0,1;r0,99,1;");
         last.minutes(1);
-        DUE.is("SEATS 5 and 6 of seven", last.drawn(1, 300000, 0), 27);
+        DUE.is("SEATS 5 and 6 of seven", last.drawn(1, 300000, 0), 9 + 27);
         // By 6 it leaves 4, who goes home; there is no SEAT 6.
         TearGuests six = Due.at("w99,0;a9,99,1;m0,0,1;m0,0,1;m0,0,1;m0,0,1;r0,99,1;");
         six.minutes(1);

@@ -200,6 +200,10 @@ public final class EdgesOfTextsTest {
             DUE.is(bytes + " bytes of " + text, answer, guests > 0 ? guests : -1000100 - bytes);
             DUE.is(bytes + " bytes: fault()", x.fault(), guests > 0 ? 0 : 1);
             DUE.is(bytes + " bytes: count(1)", x.count(1), guests);
+            // Behind the end there is nothing of a tape that was longer.
+            TearGuests again = Due.at(text);
+            answer = Due.read(again, text.substring(0, bytes));
+            DUE.is(bytes + " bytes behind all of them", answer, guests > 0 ? guests : -1000100 - bytes);
         }
     }
 

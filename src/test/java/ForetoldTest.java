@@ -330,18 +330,21 @@ public final class ForetoldTest {
         DUE.is("away(" + n + ", " + c + ", 1)", x.away(n, c, 1), below);
     }
 
+    private static final String SEASON = "w3,3;a3,20,1;r1,30,2;m4,20,3;";
+
     private static void drawn() {
         DUE.promise(25);
-        TearGuests x = Due.at("w3,3;a3,20,1;r1,30,2;m4,20,3;");
+        TearGuests x = Due.at(SEASON);
         DUE.is("drawn(0, 1, 0)", x.drawn(0, 1, 0), 0);
         // X is 16807: by 3 it leaves 1, by 7 nothing; 1 goes home, SEATS 0 and 1 change.
         DUE.is("drawn(1, 1, 0)", x.drawn(1, 1, 0), 7);
         DUE.is("drawn(1, 1, 1)", x.drawn(1, 1, 1), 15);
-        DUE.is("drawn(60, 999999, 0)", x.drawn(60, 999999, 0), played(x, 60, 999999, 5));
-        x.image(0);
+        DUE.is("drawn(60, 999999, 0)", x.drawn(60, 999999, 0), played(60, 999999).count(5));
+        DUE.is("drawn(60, 999999, 1)", x.drawn(60, 999999, 1), played(60, 999999).count(6));
         for (int seed = 1; seed < 40; seed++) {
-            DUE.is("drawn(9, " + seed + ", 0)", x.drawn(9, seed, 0), played(x, 9, seed, 5));
-            DUE.is("drawn(9, " + seed + ", 1)", x.drawn(9, seed, 1), played(x, 9, seed, 6));
+            TearGuests acted = played(9, seed);
+            DUE.is("drawn(9, " + seed + ", 0)", x.drawn(9, seed, 0), acted.count(5));
+            DUE.is("drawn(9, " + seed + ", 1)", x.drawn(9, seed, 1), acted.count(6));
         }
         for (int[] wrong : new int[][] {{-1, 1, 0}, {61, 1, 0}, {1, 0, 0}, {1, 1000000, 0}, {1, 1, 2}, {1, 1, -1}}) {
             DUE.is("drawn BAD", x.drawn(wrong[0], wrong[1], wrong[2]), BAD);
@@ -349,22 +352,21 @@ public final class ForetoldTest {
     }
 
     /** The same season, played by acts. */
-    private static int played(TearGuests x, int n, long seed, int what) {
-        x.image(1);
+    private static TearGuests played(int n, long seed) {
+        TearGuests x = Due.at(SEASON);
+        int guests = x.count(1);
         long rest = seed;
         for (int m = 0; m < n; m++) {
             rest = rest * 16807 % 2147483647L;
-            int guest = (int) (rest % x.count(1));
+            int guest = (int) (rest % guests);
             x.hire(guest, 1 - x.guest(guest, 4));
             int seat = (int) (rest % 7);
-            if (seat + 1 < x.count(1)) {
+            if (seat + 1 < guests) {
                 x.swap(x.seat(seat), x.seat(seat + 1));
             }
             x.minutes(1);
         }
-        int answer = x.count(what);
-        x.restore(1);
-        return answer;
+        return x;
     }
 
     private static void images() {

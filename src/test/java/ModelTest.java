@@ -2,13 +2,15 @@ import java.util.Random;
 
 /** All promises: long runs of drawn calls, each answer held against the model's. */
 public final class ModelTest {
-    private static final int RUNS = 700, CALLS = 400;
+    /** No step takes more than some seventy calls, so that no run goes beyond 512. */
+    private static final int RUNS = 1200, CALLS = 430;
     private static final int[] FAR = {Integer.MIN_VALUE, Integer.MAX_VALUE, -1000000, 1 << 30, 512, -2};
 
     private final Random draws;
     private final TearGuests x = new TearGuests();
     private final Model model = new Model();
     private final StringBuilder told = new StringBuilder();
+    private int calls;
     private boolean same = true;
 
     private ModelTest(long seed) {
@@ -19,7 +21,7 @@ public final class ModelTest {
         int wrong = 0;
         for (int run = 0; run < RUNS && wrong < 3; run++) {
             ModelTest test = new ModelTest(run);
-            for (int call = 0; call < CALLS && test.same; call++) {
+            while (test.calls < CALLS && test.same) {
                 test.step();
             }
             if (!test.same) {
@@ -27,13 +29,14 @@ public final class ModelTest {
                 System.out.println("run " + run + ":\n" + test.told);
             }
         }
-        System.out.println(RUNS + " runs of " + CALLS + " drawn calls, " + wrong + " wrong");
+        System.out.println(RUNS + " runs of some " + CALLS + " drawn calls, " + wrong + " wrong");
         if (wrong != 0) {
             System.exit(1);
         }
     }
 
     private void check(String call, int got, int want) {
+        calls++;
         told.append(call).append(" = ").append(got).append('\n');
         if (got != want) {
             told.append("   due is ").append(want).append('\n');

@@ -301,27 +301,28 @@ public final class WeddingsTest {
     private static void undo() {
         DUE.promise(13);
         DUE.is("no wedding", new TearGuests().undo(), STATE);
-        TearGuests x = Due.at("w20,5;a2,20,3;r1,30,2;c4,15,1;m5,40,4;o1,9,2;");
-        DUE.is("none", x.undo(), STATE);
-        String[] were = new String[6];
-        were[0] = Due.all(x);
-        x.minutes(1);
-        were[1] = Due.all(x);
-        x.hire(3, 0);
-        were[2] = Due.all(x);
-        x.swap(1, 4);
-        were[3] = Due.all(x);
-        x.hymns(2);
-        were[4] = Due.all(x);
-        x.hire(3, 1);
-        were[5] = Due.all(x);
-        x.minutes(1);
+        DUE.is("none", acted(0).undo(), STATE);
         for (int left = 5; left >= 0; left--) {
-            DUE.is("undo()", x.undo(), left);
-            DUE.holds("as it was ahead of act " + left, Due.all(x).equals(were[left]));
+            TearGuests x = acted(6);
+            for (int act = 5; act >= left; act--) {
+                DUE.is("undo()", x.undo(), act);
+            }
+            DUE.holds("as it was ahead of act " + left, Due.all(x).equals(Due.all(acted(left))));
         }
+        TearGuests x = acted(1);
+        x.undo();
         DUE.is("none more", x.undo(), STATE);
         undoOfMany(x);
+    }
+
+    /** A wedding behind so many of six acts, one of each kind and two more. */
+    private static TearGuests acted(int acts) {
+        TearGuests x = Due.at("w20,5;a2,20,3;r1,30,2;c4,15,1;m5,40,4;o1,9,2;");
+        Due.Call[] all = {y -> y.minutes(1), y -> y.hire(3, 0), y -> y.swap(1, 4), y -> y.hymns(2), y -> y.hire(3, 1), y -> y.minutes(1)};
+        for (int act = 0; act < acts; act++) {
+            all[act].on(x);
+        }
+        return x;
     }
 
     private static void undoOfMany(TearGuests x) {
