@@ -45,7 +45,7 @@ public final class EdgesOfActsTest {
     // ---- minutes
 
     private static void howManyMinutes() {
-        DUE.sentence(9, "n MINUTES (1 to 24): what is in THE BOTTLE. BAD");
+        DUE.sentence(9, "n MINUTES (1 to 24), an ACT each: what is in THE BOTTLE. BAD");
         TearGuests x = Due.at("w99,0;a1,99,1;");
         DUE.is("minutes(0)", x.minutes(0), BAD);
         DUE.is("minutes(25)", x.minutes(25), BAD);
@@ -60,7 +60,7 @@ public final class EdgesOfActsTest {
     }
 
     private static void anActEach() {
-        DUE.sentence(9, "n MINUTES, an ACT each");
+        DUE.sentence(9, "n MINUTES (1 to 24), an ACT each");
         TearGuests x = Due.at("w99,0;a1,99,1;");
         x.minutes(5);
         DUE.is("count(8)", x.count(8), 5);
@@ -206,7 +206,7 @@ public final class EdgesOfActsTest {
     }
 
     private static void hymnsComeRound() {
-        DUE.sentence(9, "bits of MINUTES by 4 left over with a hymn; a man START in MINUTES with a hymn, else nothing");
+        DUE.sentence(9, "bits of MINUTES by 4 left over with a hymn");
         for (int hymns = 0; hymns <= 15; hymns++) {
             TearGuests x = Due.at("w9," + hymns + ";m7,99,1;o5,99,1;");
             for (int m = 0; m < 9; m++) {
@@ -299,12 +299,13 @@ public final class EdgesOfActsTest {
     }
 
     private static void asMuchAsThereCanBe() {
-        DUE.sentence(9, "THE BOTTLE (999 at most); PAID (99999 at most)");
+        DUE.sentence(9, "What is shed comes into THE BOTTLE (999 at most)");
         // The wells hold 693 in all, and nobody costs more than 9, so that the bounds are never met.
         TearGuests x = Due.at("w99,0;" + "a9,99,9;".repeat(7));
         DUE.is("minutes(10)", x.minutes(10), 630);
         DUE.is("minutes(1): all wells", x.minutes(1), 693);
         DUE.is("minutes(24): nothing more", x.minutes(24), 693);
+        DUE.sentence(9, "for each but those with an onion (99999 at most)");
         DUE.is("PAID", x.count(6), 9 * 693);
         DUE.is("bottle(60, 1)", x.bottle(60, 1), 9 * 693);
     }
@@ -325,7 +326,7 @@ public final class EdgesOfActsTest {
     // ---- acts
 
     private static void hireRefused() {
-        DUE.sentence(10, "A GUEST is HIRED (1), sent home (0). BAD; STATE");
+        DUE.sentence(10, "HIRED ones (bits). BAD");
         TearGuests x = Due.at("w9,0;a1,9,1;a1,9,1;a1,9,1;");
         DUE.is("hire(3, 0): one beyond", x.hire(3, 0), BAD);
         DUE.is("hire(-1, 0)", x.hire(-1, 0), BAD);
@@ -342,7 +343,7 @@ public final class EdgesOfActsTest {
     }
 
     private static void hireIsSo() {
-        DUE.sentence(10, "HIRED ones (bits). STATE: it is so.");
+        DUE.sentence(10, "STATE: it is so.");
         TearGuests x = Due.at("w9,0;" + "a1,9,1;".repeat(7));
         int hired = 127;
         for (int g = 0; g < 7; g++) {
@@ -544,7 +545,7 @@ public final class EdgesOfActsTest {
     // ---- what they leave
 
     private static void guestBounds() {
-        DUE.sentence(14, "Of a GUEST: 0 START, .., 6 what it would shed. BAD.");
+        DUE.sentence(14, "6 what it would shed in this MINUTE, were it HIRED. BAD.");
         TearGuests x = Due.at("w9,15;a1,90,1;r2,80,2;");
         int[] due = {2, 80, 2, 1, 1, 0, 2};
         for (int what = 0; what <= 6; what++) {
@@ -594,7 +595,7 @@ public final class EdgesOfActsTest {
     }
 
     private static void countBounds() {
-        DUE.sentence(32, "How many: 0 ROWS, .., 9 bytes on the tape. BAD.");
+        DUE.sentence(32, "9 bytes on the tape. BAD.");
         TearGuests x = new TearGuests();
         for (int what = 0; what <= 9; what++) {
             DUE.is("count(" + what + "): none", x.count(what), 0);

@@ -25,7 +25,7 @@ public final class EdgesOfAsksTest {
     }
 
     private static void kindBounds() {
-        DUE.sentence(28, "The KIND of a GUEST. BAD.");
+        DUE.sentence(28, "The KIND of a GUEST, as told (1 to 5). BAD.");
         for (int guests = 1; guests <= 7; guests++) {
             TearGuests x = Due.at("w9,0;" + "o1,9,1;".repeat(guests));
             DUE.is("the last", x.kind(guests - 1), 5);
@@ -53,7 +53,7 @@ public final class EdgesOfAsksTest {
     }
 
     private static void asBounds() {
-        DUE.sentence(29, "A GUEST is taken as one of a KIND (0 .. 5). BAD; KIND");
+        DUE.sentence(29, "A GUEST is taken as one of a KIND (0 .. 5): its number. BAD");
         TearGuests x = Due.at(SEVEN);
         List<Due.Call> bad = List.of(y -> y.as(7, 0), y -> y.as(-1, 0), y -> y.as(0, 6), y -> y.as(0, -1), y -> y.as(7, 6), y -> y.as(3, 6));
         for (int c = 0; c < bad.size(); c++) {
@@ -69,7 +69,7 @@ public final class EdgesOfAsksTest {
     }
 
     private static void asKinds() {
-        DUE.sentence(29, "its number. KIND: it is no such one.");
+        DUE.sentence(29, "KIND: it is no such one.");
         boolean[][] is = {
             {true, true, false, false, false, false},
             {true, true, true, false, false, false},
@@ -120,7 +120,7 @@ public final class EdgesOfAsksTest {
     }
 
     private static void askLeast() {
-        DUE.sentence(30, "START, the number and the WELL from 0 on");
+        DUE.sentence(30, "Numbers go from 0 on.");
         for (char sort : "arcmo".toCharArray()) {
             TearGuests x = Due.at("w9,0;" + sort + "0,0,0;");
             DUE.is(sort + " of nothing: SIZE", x.ask(0, 0), sort == 'c' ? -1000 : sort == 'm' ? -100 : sort == 'o' ? -200 : 0);
@@ -129,7 +129,7 @@ public final class EdgesOfAsksTest {
     }
 
     private static void askGreatest() {
-        DUE.sentence(30, "START to 9, the number to 6 and the WELL to 99");
+        DUE.sentence(30, "SIZE, MARK within others are asked of the same GUEST anew.");
         int[] sizes = {9 + 105, -(9 + 210), 9 + 105 - 1000, -91, -182};
         int[] marks = {105, 210, 105 - 1000, 6 + 91, 6 + 182};
         for (int kind = 1; kind <= 5; kind++) {
@@ -171,7 +171,7 @@ public final class EdgesOfAsksTest {
     }
 
     private static void traceOfRefused() {
-        DUE.sentence(31, "What is refused changes nothing");
+        DUE.sentence(31, "What is refused, or found, changes nothing but status().");
         TearGuests x = Due.at(SEVEN);
         x.ask(3, 1);
         x.ask(7, 0);
@@ -184,7 +184,7 @@ public final class EdgesOfAsksTest {
     }
 
     private static void traceStays() {
-        DUE.sentence(31, "Number i of THE TRACE, until the next ask");
+        DUE.sentence(31, "Number i of THE TRACE");
         TearGuests x = Due.at(SEVEN);
         x.ask(4, 0);
         x.kind(0);

@@ -241,7 +241,7 @@ public final class EdgesOfForesightTest {
     }
 
     private static void hiringMinutes() {
-        DUE.sentence(20, "HIRE for n MINUTES (1 to 30): which (bits); PAID then; NONE.");
+        DUE.sentence(20, "HIRE for n MINUTES (1 to 30)");
         TearGuests x = Due.at("w30,0;a1,99,3;");
         DUE.is("hiring(30, 0)", x.hiring(30, 0), 1);
         DUE.is("hiring(30, 1)", x.hiring(30, 1), 90);
@@ -280,7 +280,7 @@ public final class EdgesOfForesightTest {
     }
 
     private static void hiringNobody() {
-        DUE.sentence(20, "the set of GUESTS that, HIRED now (the others not), fill THE BOTTLE behind them");
+        DUE.sentence(20, "the set of GUESTS that, HIRED now (the others not), fill THE BOTTLE (NEED or more) behind them");
         TearGuests x = Due.at("w3,0;a3,99,2;");
         x.minutes(1);
         DUE.is("hiring(1, 0): it is full, nobody is needed", x.hiring(1, 0), 0);
@@ -387,7 +387,7 @@ public final class EdgesOfForesightTest {
     }
 
     private static void changeFirst() {
-        DUE.sentence(22, "of pairs of GUESTS (a below b) that which has most in THE BOTTLE, of several the first (10 a and b); how much");
+        DUE.sentence(22, "has most in THE BOTTLE behind them, of several the first (10 a and b)");
         DUE.is("all bring as much", Due.at("w99,0;a1,9,1;a1,9,1;a1,9,1;").change(1, 0), 1);
         // 3 sits by the aunt, 4; only if 5 and 6 change both rivals do.
         TearGuests x = Due.at("w99,0;m0,0,1;m0,0,1;m0,0,1;r0,99,1;a9,99,1;m0,0,1;r0,99,1;");
@@ -453,7 +453,7 @@ public final class EdgesOfForesightTest {
     }
 
     private static void fitsPlaces() {
-        DUE.sentence(23, "n ITEMS of a ROW from i on. PLACE.");
+        DUE.sentence(23, "n ITEMS of a ROW from i on.");
         TearGuests x = Due.at("w99,0;a0,60,1;");
         x.row(0, 0, 14);
         x.row(1, 0, 0);
@@ -565,7 +565,7 @@ public final class EdgesOfForesightTest {
     }
 
     private static void fitsAtHome() {
-        DUE.sentence(23, "what a GUEST sheds: the others shed nothing");
+        DUE.sentence(23, "the others shed nothing");
         TearGuests x = Due.at("w99,15;a9,50,1;");
         x.hire(0, 0);
         tell(x, 0, 0, 0, 0, 0, 0, 0, 0, 0, 0, 0, 0, 0);
@@ -652,7 +652,7 @@ public final class EdgesOfForesightTest {
     }
 
     private static void awayHired() {
-        DUE.sentence(24, "each GUEST that is HIRED is sent home now, each by itself");
+        DUE.sentence(24, "each GUEST that is HIRED is sent home now by c of 10, each by itself");
         TearGuests x = Due.at("w1,0;a1,9,1;a1,9,1;");
         x.hire(1, 0);
         odds("who is at home stays there", x, new int[] {1, 3}, 7, 10);
@@ -668,7 +668,7 @@ public final class EdgesOfForesightTest {
     }
 
     private static void drawnBounds() {
-        DUE.sentence(25, "SEASON of n MINUTES (0 to 60) by a SEED (1 to 999999). BAD");
+        DUE.sentence(25, "SEASON by a SEED (1 to 999999): THE BOTTLE (what = 0), PAID (1). BAD");
         String one = "w1,0;a1,99,2;";
         bad(one, List.of(x -> x.drawn(-1, 1, 0), x -> x.drawn(61, 1, 0), x -> x.drawn(0, 0, 0), x -> x.drawn(0, 1000000, 0),
             x -> x.drawn(0, -1, 0), x -> x.drawn(0, 1, -1), x -> x.drawn(0, 1, 2)));
@@ -682,7 +682,7 @@ public final class EdgesOfForesightTest {
     }
 
     private static void drawnOfOne() {
-        DUE.sentence(25, "the GUEST that is the rest of X by how many there are is HIRED, or sent home, if it was; if there are both");
+        DUE.sentence(25, "the GUEST that is the rest of X by how many there are is HIRED, or sent home, if it was");
         TearGuests x = Due.at("w1,0;a1,99,2;");
         // One guest is sent home and HIRED by turns, and there is no other seat.
         for (int n : new int[] {0, 1, 2, 3, 59, 60}) {
@@ -749,7 +749,7 @@ public final class EdgesOfForesightTest {
     }
 
     private static void imageKept() {
-        DUE.sentence(26, "An IMAGE is kept of the WEDDING");
+        DUE.sentence(26, "An IMAGE (0, 1) is kept of the WEDDING");
         TearGuests x = Due.at("w50,5;a1,90,1;r2,90,2;c3,90,3;");
         x.image(0);
         x.minutes(2);

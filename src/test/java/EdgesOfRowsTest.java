@@ -113,7 +113,7 @@ public final class EdgesOfRowsTest {
     }
 
     private static void howManyItems() {
-        DUE.sentence(2, "0 to 40 ITEMS; BAD: n above 40");
+        DUE.sentence(2, "BAD: ROW, LANE, n above 40");
         for (int n : new int[] {0, 1, 2, 39, 40}) {
             TearGuests x = new TearGuests();
             DUE.is("row(5, 1, " + n + ")", x.row(5, 1, n), n);

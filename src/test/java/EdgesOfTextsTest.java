@@ -48,7 +48,7 @@ public final class EdgesOfTextsTest {
     }
 
     private static void atMostAHundredAndTen() {
-        DUE.sentence(6, "THE TAPE has at most 110 bytes; FULL");
+        DUE.sentence(6, "THE TAPE has at most 110 bytes");
         TearGuests x = new TearGuests();
         for (int n = 1; n <= 110; n++) {
             DUE.is("feed, byte " + n, x.feed(n), n);
@@ -91,7 +91,7 @@ public final class EdgesOfTextsTest {
     }
 
     private static void longest() {
-        DUE.sentence(7, "NUMBERS (figures, 2 at most); GUESTS 0 .. 6, 7 at most");
+        DUE.sentence(7, "NUMBERS (figures, 2 at most)");
         String text = "w99,15;" + "a09,99,09;".repeat(7);
         TearGuests x = new TearGuests();
         DUE.is("the longest that has no fault, of " + text.length(), Due.read(x, text), 7);
@@ -108,7 +108,7 @@ public final class EdgesOfTextsTest {
 
     /** Every byte behind every beginning of a text: those that can stand there, and the others. */
     private static void nothingElse() {
-        DUE.sentence(7, "TOKENS: letters a to z (each by itself), NUMBERS, SIGNS , and ; nothing else, no blanks.");
+        DUE.sentence(7, "SIGNS , and ; nothing else, no blanks.");
         StringBuilder begun = new StringBuilder();
         for (int k = 0; k <= TOKENS.length; k++) {
             String due = k == TOKENS.length ? "a" : TOKENS[k];
@@ -157,7 +157,7 @@ public final class EdgesOfTextsTest {
     }
 
     private static void numberWithin(String name, String ahead, String behind, int least, int most, Due.Call read) {
-        DUE.sentence(7, "w NEED , HYMNS ; (1 to 99; 0 to 15); SORT START , WELL , FEE ; (0 to 9; 0 to 99; 0 to 9)");
+        DUE.sentence(7, "2 a NUMBER that is not as told");
         for (int n = 0; n < 110; n++) {
             // From 100 on: 0 to 9 with a 0 ahead.
             String figures = n < 100 ? "" + n : "0" + (n - 100);
@@ -245,8 +245,8 @@ public final class EdgesOfTextsTest {
     }
 
     private static void inPlaceOfTheOneBefore() {
-        DUE.sentence(7, "A WEDDING that is read stands in place of the one before: MINUTE 0, all GUESTS are HIRED, nobody shed anything, "
-            + "THE BOTTLE is empty, nothing was PAID; no ACT can be undone.");
+        DUE.sentence(7, "A WEDDING that is read stands in place of the one before (none at first): MINUTE 0, all GUESTS are HIRED, "
+            + "nobody shed anything, THE BOTTLE is empty, nothing was PAID; no ACT can be undone.");
         TearGuests x = Due.at("w50,15;a9,99,9;r8,80,8;m7,70,7;");
         x.minutes(3);
         x.hire(0, 0);
